@@ -10,6 +10,7 @@ public final class DoneTest {
         rights();
         rules();
         ahead();
+        fewerThanBefore();
         Due.end();
     }
 
@@ -64,6 +65,8 @@ public final class DoneTest {
         Due.not(x, "23 21", x.carry(1, 21), 5);
         Due.not(x, "23 21", x.carry(21, 1), 5);
         Due.not(x, "23 -1", x.carry(3, -1), 5);
+        Due.not(x, "23 0 of east", x.carry(0, 1), 5);
+        Due.not(x, "23 0 of west", x.carry(1, 0), 5);
         Due.not(x, "23 unlike", x.carry(3, 4), 9);
         Due.is(x, "23 to east", x.carry(1, 1), 0);
         Due.is(x, "23 who has him pays", x.chest(0), 7);
@@ -163,7 +166,7 @@ public final class DoneTest {
         }
         Due.is(x, "28 here", x.claim(0, 0, 0, 1, 0), 5);
         Due.not(x, "28 has no lag", x.right(5, 2), 8);
-        x.claim(0, 1, 0, 1, 0);
+        Due.is(x, "28 late by 1", x.claim(0, 2, 1, 1, 0), 6);
         Due.is(x, "28 the eighth", x.claim(0, 1, 0, 1, 0), 7);
         Due.not(x, "28 a ninth", x.claim(0, 1, 0, 1, 0), 7);
         Due.not(x, "28 5 first", x.claim(0, 1, 0, 0, 0), 5);
@@ -184,6 +187,26 @@ public final class DoneTest {
         Due.not(x, "29 4", x.rule(4, 1), 5);
         Due.not(x, "29 8", x.rule(8, 1), 5);
         Due.not(x, "29 -1", x.rule(-1, 1), 5);
+    }
+
+    /** What an earlier PARISH had more of must not be there any longer. */
+    private static void fewerThanBefore() {
+        StringBuilder eight = new StringBuilder();
+        for (int i = 0; i < 8; i++) {
+            eight.append("right east here worth 1").append(ALL);
+        }
+        DitchSaint x = Due.with(eight.toString());
+        Due.is(x, "32 all eight", x.bears(), 255);
+        Due.is(x, "22 all eight", x.month(1), 8);
+        Due.is(x, "30 all eight", x.chestIn(0, 2), 24);
+        Due.parish(x, "right east here worth 1" + ALL);
+        Due.is(x, "32 one", x.bears(), 1);
+        Due.is(x, "22 one", x.month(1), 1);
+        Due.is(x, "30 one", x.chestIn(0, 2), 3);
+        Due.is(x, "33 one", x.gain(0, 4095), 12);
+        Due.parish(x, "ask a;ask b;");
+        Due.parish(x, "ask a;clause b;");
+        Due.is("10 b is not told", x.fault(0), 3);
     }
 
     private static void ahead() {

@@ -53,6 +53,17 @@ public final class PlanTest {
         Due.is(x, "35", x.net(7), 31);
         Due.is(x, "36", x.best(2), 7);
         Due.is(x, "36 none", x.best(1), 0);
+        x.claim(0, 0, 0, 50, 2048);
+        Due.is(x, "36 asked at once", x.best(12), 2048 + 7);
+        x.claim(0, 0, 0, 49, 1024);
+        Due.is(x, "39 asked at once", x.bestOf(1), 3072 + 7);
+        DitchSaint one = Due.with("toll 0;right east here worth 1 in 0;right west here worth 1 in 1;");
+        Due.is(one, "40 asked at once", one.even(), 1);
+        Due.is(one, "36 the first", one.best(2), 1);
+        DitchSaint last = Due.with("right east here worth 1 in 0 1 2 3 4 5 6 7 8 9 10 11;right west away worth 1 in 0 1 2 3 4 5 6 7 8 9 10 11;");
+        Due.is(last, "40 the last", last.even(), 4095);
+        Due.is(last, "36 the last", last.best(0), 4095);
+        Due.is(last, "39 the last", last.bestOf(1), 4095);
         DitchSaint y = Due.with("toll 1;");
         Due.is(y, "35 below 0", y.net(1), -2);
         DitchSaint z = Due.with("toll 0;right east away worth 1 in 4;");

@@ -7,6 +7,7 @@ public final class TextTest {
         tooMany();
         yearsFaults();
         told();
+        behindOthers();
         Due.end();
     }
 
@@ -98,6 +99,12 @@ public final class TextTest {
         no("month 1;", 2, 0);
         no("worth;", 2, 0);
         no("lies here;", 2, 5);
+        no("lies;", 2, 4);
+        no("right;", 2, 5);
+        no("right east;", 2, 10);
+        no("debt;", 2, 4);
+        no("debt east;", 2, 9);
+        no("chest;", 2, 5);
         no("chest 1;", 2, 6);
         no("chest east west;", 2, 11);
         no("right here east;", 2, 6);
@@ -246,7 +253,7 @@ public final class TextTest {
         DitchSaint x = new DitchSaint();
         Due.is(x, "11 30 steps", Due.years(x, text + "end;end;end;"), 30);
         Due.is(x, "11 side by side", Due.years(x, "loop 1;loop 1;loop 1;end;loop 9;end;end;end;loop 99;end;"), 5);
-        Due.is(x, "11 edges", Due.years(x, "month 24;month 1;carry 20 1;swear west 99 24;pay 4;pay 0;when chest west=9999;end;"
+        Due.is(x, "11 edges", Due.years(x, "month 24;month 1;carry 20 20;swear west 99 24;pay 4;pay 0;when chest west=9999;end;"
                 + "when chest west<0;end;"), 8);
     }
 
@@ -269,6 +276,29 @@ public final class TextTest {
         Due.years(x, "end;");
         Due.is("12 of years, too", x.fault(0), 2);
         Due.is("12 of years, too", x.fault(1), 0);
+    }
+
+    /** Nothing of a text read before, or of months looked ahead, may come into the next one. */
+    private static void behindOthers() {
+        DitchSaint x = Due.with(Due.PARISH, "loop 3;any;month 1;swear east 1 1;carry 1 1;end;");
+        x.chestIn(0, 60);
+        x.mean(0, 20);
+        Due.is(x, "10 nothing", Due.parish(x, " "), 0);
+        Due.yes("10 as new", Look.at(x).equals(Look.at(new DitchSaint())));
+        Due.not(x, "10 no years", x.live(0), 8);
+        Due.parish(x, Due.PARISH);
+        Due.parish(x, Due.PARISH.replace("toll", "tolls"));
+        Due.years(x, "loop 1;loop 1;");
+        Due.is(x, "11 none open", Due.years(x, "loop 1;loop 1;loop 1;month 1;end;end;end;"), 4);
+        Due.years(x, "month 25;");
+        Due.is(x, "11 none wrong", Due.years(x, "any;stop;"), 2);
+        Due.years(x, "carry 1 25;");
+        Due.is(x, "11 none wrong", Due.years(x, "stop;any;stop;"), 3);
+        Due.is(x, "11 these alone", x.live(3), 1);
+        Due.is(x, "11 these, not those", Due.years(x, "month 2;"), 1);
+        Due.is(x, "11 these alone", x.live(3), 1);
+        Due.is(x, "11 these months", x.lived(1), 2);
+        Due.is(x, "10 the parish of the first text", x.many(9), 2);
     }
 
     private static void no(String text, int fault, int place) {

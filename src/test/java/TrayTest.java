@@ -20,10 +20,12 @@ public final class TrayTest {
         Due.not(x, "5 still missing", x.read(0, 0), 3);
         Due.yes(x, "5 many 60", x.tray(0, 0, 60));
         Due.yes(x, "5 write", x.write(0, 59, 7));
+        Due.yes(x, "5 write", x.write(0, 0, 8));
         Due.yes(x, "5 many 0", x.tray(1, 3, 0));
         Due.not(x, "5 no place", x.read(1, 0), 4);
         Due.yes(x, "5 made again", x.tray(0, 2, 60));
         Due.is(x, "5 all 0", x.read(0, 59), 0);
+        Due.is(x, "5 the first, too", x.read(0, 0), 0);
     }
 
     private static void written() {

@@ -111,6 +111,12 @@ public final class YearsTest {
         DitchSaint t = Due.with("", "loop 99;loop 99;loop 99;end;end;end;");
         Due.is(t, "51 loops of nothing", t.live(0), 300);
         lived(t, 0, 0, 0, 0, 1);
+        Due.years(t, "month 1;");
+        t.live(0);
+        lived(t, 0, 1, 0, 0, 0);
+        DitchSaint r = Due.with("debt west sum 1 left 9;", "when owes east;month 1;end;when owes west;month 2;end;");
+        Due.is(r, "51 owes but 1", r.live(0), 3);
+        lived(r, 0, 2, 0, 0, 0);
         DitchSaint s = Due.with("", "loop 3;when lies west;month 1;end;loop 2;month 1;end;end;");
         Due.is(s, "51 when, loop count each time", s.live(0), 1 + 3 * (1 + 1 + 2));
         lived(s, 0, 6, 0, 0, 0);
@@ -161,24 +167,31 @@ public final class YearsTest {
     }
 
     private static void atRandom(int round) {
-        Random random = new Random(round);
-        Parson parson = new Parson(random);
+        Random random = new Random(-1 - round);
+        int ahead = random.nextInt(10) == 0 ? 9900 : random.nextInt(5);
+        int seed = random.nextInt(9997);
+        Parson parson = new Parson(new Random(round));
         String parish = parson.parish();
         String years = parson.years(parson.steps, 0);
         if (years.length() > 300) {
             return;
         }
         DitchSaint x = Due.with(parish, years);
-        int ahead = random.nextInt(10) == 0 ? 9900 : random.nextInt(5);
         for (int i = ahead; i > 0; i -= 99) {
             x.month(Math.min(99, i));
         }
-        parson.months(ahead);
-        int seed = random.nextInt(10000);
-        int before = parson.lay.size();
-        parson.live(seed);
-        Due.yes(x, "53 of " + years, x.mean(seed, 1));
-        Due.is("53 of " + years, x.top(), parson.chest[0] + parson.chest[1]);
+        int sum = 0;
+        for (int i = 2; i >= 0; i--) {
+            parson = new Parson(new Random(round));
+            parson.years(parson.steps, 0);
+            parson.months(ahead);
+            parson.lapsed = 0;
+            parson.live(seed + i);
+            sum += parson.chest[0] + parson.chest[1];
+        }
+        Due.yes(x, "53 of " + years, x.mean(seed, 3));
+        Due.is("53 of " + years, x.top() * 3, sum * x.bottom());
+        int before = ahead;
         Due.is(x, "51 of " + years, x.live(seed), parson.done);
         Due.is(x, "52 missed of " + years, x.lived(0), parson.missed);
         Due.is(x, "52 months of " + years, x.lived(1), parson.lay.size() - before);
