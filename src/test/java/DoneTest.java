@@ -204,7 +204,7 @@ public final class DoneTest {
         Due.is(x, "22 one", x.month(1), 1);
         Due.is(x, "30 one", x.chestIn(0, 2), 3);
         Due.is(x, "33 one", x.gain(0, 4095), 12);
-        Due.parish(x, "ask a;ask b;");
+        Due.parish(x, "ask a;ask    b;");
         Due.parish(x, "ask a;clause b;");
         Due.is("10 b is not told", x.fault(0), 3);
     }

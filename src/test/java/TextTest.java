@@ -34,6 +34,15 @@ public final class TextTest {
         x.years(5);
         Due.is("11 a fault", x.status(), 10);
         Due.not(x, "11 the tape is empty with 10, too", x.years(1), 5);
+        Due.feed(x, "odds 12;");
+        Due.not(x, "10 a number cut short", x.parish(6), 10);
+        Due.is("10 the end is where it is cut", x.fault(1), 6);
+        Due.feed(x, "odds 12345;");
+        Due.not(x, "10 a number cut short", x.parish(8), 10);
+        Due.is("10 it can't be", x.fault(0), 4);
+        Due.feed(x, "stopping");
+        Due.not(x, "11 a word cut short", x.years(4), 10);
+        Due.is("11 the end is where it is cut", x.fault(1), 4);
         Due.is(x, "10 nothing", x.parish(0), 0);
         Due.is(x, "10 nothing at all", x.many(7), 5);
         StringBuilder wide = new StringBuilder("stop;");
@@ -287,7 +296,10 @@ public final class TextTest {
         Due.yes("10 as new", Look.at(x).equals(Look.at(new DitchSaint())));
         Due.not(x, "10 no years", x.live(0), 8);
         Due.parish(x, Due.PARISH);
-        Due.parish(x, Due.PARISH.replace("toll", "tolls"));
+        Due.parish(x, Due.PARISH.replace("witness 3 9;", "witness 3 99;"));
+        Due.is("10 a fault at the end", x.fault(0), 4);
+        Due.is(x, "10 no debts", Due.parish(x, "war 1;"), 0);
+        Due.yes("10 as new, but for war", x.rule(7, 5) && Look.at(x).equals(Look.at(new DitchSaint())));
         Due.years(x, "loop 1;loop 1;");
         Due.is(x, "11 none open", Due.years(x, "loop 1;loop 1;loop 1;month 1;end;end;end;"), 4);
         Due.years(x, "month 25;");
