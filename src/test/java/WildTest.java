@@ -6,7 +6,10 @@ import java.util.Comparator;
 import java.util.List;
 import java.util.Random;
 
-/** Any call, with any arguments: nothing is thrown, a refused call changes nothing, twins agree. */
+/**
+ * Any call, with any arguments: nothing is thrown, what is refused gives nothing; and an object whose
+ * calls are the same without those that were refused answers the same, and is the same in the end.
+ */
 public final class WildTest {
     private static final int[] EDGES = {-1, 12, 13, 16, 17, 20, 21, 24, 25, 50, 51, 60, 61, 99, 100, 300, 301, 900, 901,
         999, 4095, 4096, 9999, 10000, Integer.MAX_VALUE, Integer.MIN_VALUE};
@@ -15,7 +18,7 @@ public final class WildTest {
 
     public static void main(String[] args) throws Exception {
         List<Method> calls = calls();
-        for (int run = 0; run < 300; run++) {
+        for (int run = 0; run < 2000; run++) {
             wild(calls, new Random(run));
         }
         Due.end();
@@ -24,7 +27,7 @@ public final class WildTest {
     private static List<Method> calls() {
         List<Method> calls = new ArrayList<>();
         for (Method method : DitchSaint.class.getDeclaredMethods()) {
-            // status() is not asked of twins: looking at one of them changes it
+            // status() is not among them: that of a refused call is just what the twin has not
             if (Modifier.isPublic(method.getModifiers()) && !method.getName().equals("status")) {
                 calls.add(method);
             }
@@ -36,31 +39,31 @@ public final class WildTest {
     private static void wild(List<Method> calls, Random random) throws Exception {
         DitchSaint x = new DitchSaint();
         DitchSaint twin = new DitchSaint();
-        for (int i = 0; i < 250; i++) {
+        for (int i = 0; i < 60; i++) {
             if (random.nextInt(12) == 0) {
-                String text = TEXTS[random.nextInt(TEXTS.length)];
-                boolean isYears = random.nextBoolean();
-                int got = isYears ? Due.years(x, text) : Due.parish(x, text);
-                Due.is("a twin's text", isYears ? Due.years(twin, text) : Due.parish(twin, text), got);
+                text(x, twin, random);
                 continue;
             }
             Method call = calls.get(random.nextInt(calls.size()));
             Object[] with = arguments(call, random);
-            String before = Look.atAll(x);
             Object got = answer(call, x, with);
-            int status = x.status();
-            boolean refused = got.equals(-1) || got.equals(-1L) || got.equals(false);
+            int status = hasStatus(call) ? x.status() : 0;
             Due.yes("a status that is there", status >= 0 && status <= 11);
-            if (hasStatus(call) && status != 0) {
-                Due.yes(call.getName() + " refused gives nothing", refused);
-                boolean reads = call.getName().equals("parish") || call.getName().equals("years");
-                if (!(reads && status == 10)) {
-                    Due.yes(call.getName() + " refused changes nothing", before.equals(Look.atAll(x)));
-                }
+            if (status != 0) {
+                Due.yes(call.getName() + " refused gives nothing", got.equals(-1) || got.equals(-1L) || got.equals(false));
             }
-            Due.yes("twins agree on " + call.getName(), got.equals(answer(call, twin, with)));
+            if (status == 0 || status == 10) {
+                Due.yes("twins agree on " + call.getName(), got.equals(answer(call, twin, with)));
+            }
         }
-        Due.yes("twins are alike", Look.atAll(x).equals(Look.atAll(twin)));
+        Due.yes("twins are alike", Look.through(x).equals(Look.through(twin)));
+    }
+
+    private static void text(DitchSaint x, DitchSaint twin, Random random) {
+        String text = TEXTS[random.nextInt(TEXTS.length)];
+        boolean isYears = random.nextBoolean();
+        int got = isYears ? Due.years(x, text) : Due.parish(x, text);
+        Due.is("a twin's text", isYears ? Due.years(twin, text) : Due.parish(twin, text), got);
     }
 
     private static boolean hasStatus(Method call) {
