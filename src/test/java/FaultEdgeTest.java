@@ -11,6 +11,8 @@ public final class FaultEdgeTest {
         eachPartCutShort();
         eachStepCutShort();
         eachTokenTurnedWrong();
+        eachTokenOfAPartLeftOut();
+        eachTokenOfAStepLeftOut();
         Due.end();
     }
 
@@ -161,5 +163,71 @@ public final class FaultEdgeTest {
                 }
             }
         }
+    }
+
+    /** Then it is the TOKEN behind it that can't stand there. */
+    private static void eachTokenOfAPartLeftOut() {
+        Faulty.parish("8;", 2, 0);
+        Faulty.parish("odds;", 2, 4);
+        Faulty.parish("odds 8 toll 8;", 2, 7);
+        Faulty.parish("toll;", 2, 4);
+        Faulty.parish("war;", 2, 3);
+        Faulty.parish("lies;", 2, 4);
+        Faulty.parish("lies east lies;", 2, 10);
+        Faulty.parish("chest 8;", 2, 6);
+        Faulty.parish("chest west;", 2, 10);
+        Faulty.parish("chest west 8 odds 1;", 2, 13);
+        Faulty.parish("right here worth 8 in;", 2, 6);
+        Faulty.parish("right east worth 8 in;", 2, 11);
+        Faulty.parish("right east late worth 8 in;", 2, 16);
+        Faulty.parish("right east late 2 8 in;", 2, 18);
+        Faulty.parish("right east here 8 in;", 2, 16);
+        Faulty.parish("right east here worth in;", 2, 22);
+        Faulty.parish("right east here worth 8;", 2, 23);
+        Faulty.parish("right east here worth 8 1 2;", 2, 24);
+        Faulty.parish("right east here worth 8 in 1 odds 1;", 2, 29);
+        Faulty.parish("debt sum 8 left 3;", 2, 5);
+        Faulty.parish("debt west 8 left 3;", 2, 10);
+        Faulty.parish("debt west sum left 3;", 2, 14);
+        Faulty.parish("debt west sum 8 3;", 2, 16);
+        Faulty.parish("debt west sum 8 left;", 2, 20);
+        Faulty.parish("debt west sum 8 left 3 odds 1;", 2, 23);
+        Faulty.parish("ask;", 2, 3);
+        Faulty.parish("ask a ask b;", 2, 6);
+        Faulty.parish("ask a;clause;", 2, 12);
+        Faulty.parish("ask a;clause not;", 2, 16);
+        Faulty.parish("ask a;clause a clause a;", 2, 15);
+        Faulty.parish("witness;", 2, 7);
+        Faulty.parish("witness 8;", 2, 9);
+        Faulty.parish("witness 8 9 odds 1;", 2, 12);
+    }
+
+    private static void eachTokenOfAStepLeftOut() {
+        Faulty.years("month;", 2, 5);
+        Faulty.years("month 8 any;", 2, 8);
+        Faulty.years("carry;", 2, 5);
+        Faulty.years("carry 8;", 2, 7);
+        Faulty.years("carry 8 8 any;", 2, 10);
+        Faulty.years("swear 8 9;", 2, 6);
+        Faulty.years("swear west;", 2, 10);
+        Faulty.years("swear west 8;", 2, 12);
+        Faulty.years("swear west 8 9 any;", 2, 15);
+        Faulty.years("pay;", 2, 3);
+        Faulty.years("pay 3 any;", 2, 6);
+        Faulty.years("any any;", 2, 4);
+        Faulty.years("stop any;", 2, 5);
+        Faulty.years("loop;end;", 2, 4);
+        Faulty.years("loop end;", 2, 5);
+        Faulty.years("loop 8 any;end;", 2, 7);
+        Faulty.years("loop 8;end any;", 2, 11);
+        Faulty.years("when;end;", 2, 4);
+        Faulty.years("when east;end;", 2, 5);
+        Faulty.years("when lies;end;", 2, 9);
+        Faulty.years("when owes;end;", 2, 9);
+        Faulty.years("when lies east any;end;", 2, 15);
+        Faulty.years("when chest <8;end;", 2, 11);
+        Faulty.years("when chest east 8;end;", 2, 16);
+        Faulty.years("when chest east<;end;", 2, 16);
+        Faulty.years("when chest east<8 any;end;", 2, 18);
     }
 }

@@ -29,6 +29,7 @@ public final class LiveEdgeTest {
         testsAtTheirEdges();
         steps299To301();
         endsBehind300();
+        loopsLeftOffAreForgotten();
         meanOf1To20();
         meanOfTheLastSeed();
         meanWithoutYears();
@@ -353,6 +354,21 @@ public final class LiveEdgeTest {
         DitchSaint v = Due.with("", "loop 2;loop 99;month 1;month 1;month 1;end;pay 0;end;");
         Due.is(v, "51 the loop goes on", v.live(0), 300);
         Due.is(v, "52 its second time is left", v.lived(4), 1);
+    }
+
+    /** A loop that was left by stop, or by the 300th STEP, says nothing of what stands there later. */
+    private static void loopsLeftOffAreForgotten() {
+        for (String left : new String[] {"loop 9;stop;end;", "loop 99;month 1;month 1;month 1;month 1;end;"}) {
+            DitchSaint x = Due.with("", left);
+            x.live(0);
+            Due.years(x, "when lies east;month 1;end;");
+            Due.is(x, "51 a when in its place", x.live(0), 2);
+            lived(x, "once", 0, 1, 0, 0, 0);
+            Due.years(x, "loop 2;month 1;end;");
+            Due.is(x, "51 a loop in its place", x.live(0), 3);
+            lived(x, "twice", 0, 2, 0, 0, 0);
+            Due.yes(x, "53 of that", x.mean(0, 1));
+        }
     }
 
     private static void meanOf1To20() {

@@ -27,6 +27,7 @@ public final class PlanEdgeTest {
         rentOfHere();
         rentOfLate();
         rentOfChanges();
+        rentOf12Changes();
         nothingChanges();
         Due.end();
     }
@@ -303,6 +304,14 @@ public final class PlanEdgeTest {
             x.claim(0, 0, 0, 50, 1 << (month + 1) % 12);
             Due.is(x, "35 two tolls of two months", x.net(1 << month | 1 << (month + 1) % 12), 5 + 50 + 30 - 4);
             Due.is(x, "41 two tolls with it, two without it", x.rent(month), 5);
+        }
+    }
+
+    /** The greatest NET of all PLANS: of those with as many CHANGES as can be, too. */
+    private static void rentOf12Changes() {
+        DitchSaint x = Due.with("toll 0;right east here worth 1 in 0 2 4 6 8 10;right west here worth 1 in 1 3 5 7 9 11;");
+        for (int month = 0; month < 12; month++) {
+            Due.is(x, "41 month " + month + " of twelve changes", x.rent(month), 1);
         }
     }
 

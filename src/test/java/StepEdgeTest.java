@@ -114,8 +114,11 @@ public final class StepEdgeTest {
 
     private static void endIsNoStep() {
         DitchSaint x = new DitchSaint();
-        String pairs = "loop 1;end;".repeat(27);
-        Due.is(x, "11 27 loops with their ends", Due.years(x, pairs), 27);
+        String pairs = "loop2;end;".repeat(30);
+        Due.is("11 as much as 300 bytes can have", pairs.length(), 300);
+        Due.is(x, "11 30 loops with their ends", Due.years(x, pairs), 30);
+        Due.is(x, "51 30 loops with their ends", x.live(0), 30);
+        Due.is(x, "52 none is left", x.lived(4), 0);
         Due.is(x, "11 30 steps, 13 ends", Due.years(x, "loop 1;end;".repeat(13) + "any;".repeat(17)), 30);
         Faulty.years("loop 1;end;".repeat(13) + "any;".repeat(17) + "any;", 6, 13 * 11 + 17 * 4);
         Due.is(x, "11 an end behind 30", Due.years(x, "loop 1;" + "any;".repeat(29) + "end;"), 30);
