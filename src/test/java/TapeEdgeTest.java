@@ -19,6 +19,7 @@ public final class TapeEdgeTest {
         yearsBeyondTheTape();
         emptyBehindATakenText();
         emptyBehindAFault();
+        allElseBehindAFault();
         keptBehind5();
         faultAheadOfAny();
         faultOfOthers();
@@ -210,6 +211,23 @@ public final class TapeEdgeTest {
         Due.feed(x, "!                    ");
         Due.not(x, "11 a fault", x.years(30), 10);
         Due.is("11 it is empty then", blanks(x), 20);
+    }
+
+    /** But for the tape, and what fault() tells, both of which are here what they were. */
+    private static void allElseBehindAFault() {
+        DitchSaint x = faulty();
+        Due.not(x, "10 a fault", Due.parish(x, "go"), 10);
+        Due.yes("10 leaves all else as it was", Look.through(x).equals(Look.through(faulty())));
+        DitchSaint y = faulty();
+        Due.not(y, "11 a fault", Due.years(y, "go"), 10);
+        Due.yes("11 leaves all else as it was", Look.through(y).equals(Look.through(faulty())));
+    }
+
+    private static DitchSaint faulty() {
+        DitchSaint x = Refused.busy();
+        x.years(20);
+        Due.is("11 a fault at the first", x.fault(0) * 100 + x.fault(1), 200);
+        return x;
     }
 
     private static void keptBehind5() {
