@@ -58,8 +58,13 @@ public final class LanguageTest {
         TreeSet<String> names = new TreeSet<>();
         for (Method method : DitchSaint.class.getDeclaredMethods()) {
             if (Modifier.isPublic(method.getModifiers())) {
-                names.add(method.getName());
+                Due.yes("once " + method, names.add(method.getName()));
             }
+        }
+        for (Method method : DitchSaint.class.getDeclaredMethods()) {
+            boolean isPublic = Modifier.isPublic(method.getModifiers());
+            Due.yes("name " + method, isPublic || !names.contains(method.getName()));
+            Due.yes("parameters " + method, method.getParameterCount() <= 7);
         }
         for (Class<?> one : all) {
             Due.yes("static " + one, Modifier.isStatic(one.getModifiers()));

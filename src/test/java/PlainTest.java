@@ -22,6 +22,9 @@ public final class PlainTest {
     private static final int[] EDGES = {-1, 0, 6, 7, 12, 13, 16, 17, 20, 21, 24, 25, 50, 51, 60, 61, 99, 100, 4096, 9999, 10000,
         Integer.MAX_VALUE, Integer.MIN_VALUE};
 
+    /** Runs in which every STATUS comes up often. */
+    private static final int ENOUGH = 600;
+
     private static final Map<String, Method> OF_CLASS = new HashMap<>();
     private static final Map<String, Method> OF_PLAIN = new HashMap<>();
     private static final Map<Integer, Integer> SEEN = new HashMap<>();
@@ -39,7 +42,7 @@ public final class PlainTest {
     }
 
     public static void main(String[] args) throws Exception {
-        int runs = args.length > 0 ? Integer.parseInt(args[0]) : 600;
+        int runs = args.length > 0 ? Integer.parseInt(args[0]) : ENOUGH;
         for (Method method : DitchSaint.class.getMethods()) {
             OF_CLASS.put(method.getName(), method);
         }
@@ -49,7 +52,7 @@ public final class PlainTest {
         for (int seed = 0; seed < runs; seed++) {
             new PlainTest(seed).run();
         }
-        for (int status : new int[] {0, 1, 2, 3, 4, 5, 6, 7, 8, 9, 10, 11}) {
+        for (int status = 0; status <= 11 && runs >= ENOUGH; status++) {
             Due.yes("some calls have STATUS " + status, SEEN.getOrDefault(status, 0) > 20);
         }
         Due.end();

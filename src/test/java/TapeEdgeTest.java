@@ -8,6 +8,8 @@ public final class TapeEdgeTest {
         highestByteFirst();
         feedHasNoStatus();
         parishOf900Bytes();
+        lastTokenOf900Bytes();
+        bytesBehindTheText();
         parishOfNoBytes();
         parishBelow0();
         parishBeyondTheTape();
@@ -102,6 +104,29 @@ public final class TapeEdgeTest {
         Due.is("10 without the last", x.fault(0), 2);
         Due.is("10 at the text's length", x.fault(1), 899);
         Faulty.parish(ending("!", 900), 1, 899);
+    }
+
+    /** The last TOKEN goes to the very end of the tape, whatever WORD begins so. */
+    private static void lastTokenOf900Bytes() {
+        for (String begun : new String[] {"o", "od", "odd", "witnes", "en", "abcdefgh", "abcdefghi", "9", "1234", ";", "="}) {
+            Faulty.parish(ending(begun, 900), 2, 900 - begun.length());
+        }
+        Faulty.parish(ending("12345", 900), 1, 895);
+        for (String whole : new String[] {"odds", "clause", "right", "ask"}) {
+            Faulty.parish(ending(whole, 900), 2, 900);
+        }
+    }
+
+    /** What stands behind the first n bytes is no part of the text, though it would go on with a TOKEN. */
+    private static void bytesBehindTheText() {
+        for (int n = 0; n <= Due.PARISH.length(); n++) {
+            DitchSaint x = new DitchSaint();
+            Due.feed(x, Due.PARISH);
+            x.parish(n);
+            Clerk clerk = Clerk.ofParish(Due.PARISH.substring(0, n));
+            Due.is("10 fault of the first " + n, x.fault(0), clerk.fault);
+            Due.is("10 place in the first " + n, x.fault(1), clerk.place);
+        }
     }
 
     private static void parishOfNoBytes() {
